@@ -384,7 +384,7 @@ public final class Scripthouse {
         /** Goes by rising rows of numbers and takes only what is better, so that the first of the best stays. */
         private static void tryOrders(Planner planner, int depth, int placed) {
             if (placed == planner.scenes.everyScene() || depth >= MAX_SCENES) {
-                planner.keep(depth);
+                planner.keepIfBetter(depth);
                 return;
             }
             for (int scene = 0; scene < planner.scenes.count; scene++) {
@@ -412,7 +412,10 @@ public final class Scripthouse {
             return fewest;
         }
 
-        void keep(int depth) {
+        void keepIfBetter(int depth) {
+            if (daysUpTo(depth) >= bestDays) {
+                return;
+            }
             bestDays = daysUpTo(depth);
             for (int number = 0; number < MAX_SCENES; number++) {
                 put(bestOrder, number, at(order, number));

@@ -1,4 +1,6 @@
 import java.util.function.LongSupplier;
+import java.util.function.Supplier;
+import java.util.function.ToLongFunction;
 
 /** What the tests count and say; each test's main ends with end(). */
 final class Checks {
@@ -87,6 +89,38 @@ final class Checks {
         String before = state(x);
         due(what, want, call);
         due(what + " changes nothing", true, before.equals(state(x)));
+    }
+
+    /** A call that throws on an object that the maker makes, and leaves it as one on which nobody called it. */
+    static void refused(String what, long want, Supplier<Scripthouse> maker, ToLongFunction<Scripthouse> call) {
+        Scripthouse x = maker.get();
+        due(what, want, () -> call.applyAsLong(x));
+        due(what + " changes nothing", true, wholeState(maker.get()).equals(wholeState(x)));
+    }
+
+    /** What an object holds and what cannot be asked alone; the object is used up by it. */
+    static String wholeState(Scripthouse x) {
+        StringBuilder text = new StringBuilder(state(x));
+        text.append(" held ").append(x.hold(true));
+        for (int i = 0; i < 10; i++) {
+            x.grant(100000);
+            text.append(" day ").append(answer(() -> x.shoot(false))).append(' ').append(x.shot());
+            text.append(' ').append(x.costs()).append(' ').append(x.left(0)).append(' ').append(x.left(1));
+        }
+        text.append(" rate ").append(x.setRates(1, 1)).append(" out");
+        for (int i = 0; i < 4; i++) {
+            text.append(' ').append(x.setOut(i, false));
+        }
+        text.append(" child");
+        for (int i = 0; i < 6; i++) {
+            text.append(' ').append(x.setChild(i, false));
+        }
+        x.income(1000000);
+        x.income(999999);
+        text.append(' ').append(state(x));
+        text.append(" next ").append(answer(() -> x.addScene(1, 0, 0, 0, 0)));
+        text.append(' ').append(answer(() -> x.loan(0, 1))).append(' ').append(answer(() -> x.part(-1, 0, 1)));
+        return text.toString();
     }
 
     static void end(String test) {

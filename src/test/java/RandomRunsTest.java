@@ -2,6 +2,9 @@ import java.util.Random;
 
 /** Long runs of all calls beside the model; the numbers come from fixed seeds, so that each run is always the same. */
 public final class RandomRunsTest {
+    /** The calls for which an object is used. */
+    private static final int CALLS = 512;
+
     private final Random random;
     private final int maxScenes;
     private final Scripthouse x = new Scripthouse();
@@ -29,7 +32,7 @@ public final class RandomRunsTest {
     }
 
     private void run() {
-        for (int call = 0; call < 300; call++) {
+        for (int call = 0; call < CALLS; call++) {
             int kind = random.nextInt(26);
             if (kind < 12) {
                 tell(kind);
